@@ -347,7 +347,6 @@ public final class RuleHall {
             for (int p = 0; p < PREDICATES; p++) {
                 sort[p] = UNKNOWN;
                 arity[p] = 0;
-                stratum[p] = 0;
                 reach[p] = 1 << p;
             }
             for (int e = 0; e < size; e++) {
@@ -387,7 +386,7 @@ public final class RuleHall {
             }
         }
 
-        /** Needs a program without a fault: then no chain of rules raises more often than there are predicates. */
+        /** Without a fault no chain of rules is longer than there are predicates, so as many passes do. */
         void rankStrata() {
             for (int p = 0; p < PREDICATES; p++) {
                 stratum[p] = sort[p] == DERIVED ? 1 : 0;
@@ -474,29 +473,23 @@ public final class RuleHall {
             return wrong;
         }
 
-        private boolean readRule() {
-            if (!readAtom(Program.HEAD)) {
-                return false;
+        private void readRule() {
+            if (!readAtom(Program.HEAD) || accept('.')) {
+                return;
             }
-            if (accept('.')) {
-                return true;
-            }
+            // Between these two a blank can't stand, so it is not skipped.
             if (!accept(':') || tape.at(at) != '-') {
-                return refuse(at);
+                refuse(at);
+                return;
             }
             at++;
-            for (int i = 0; i < Tape.MOST; i++) {
-                if (!readPart()) {
-                    return false;
-                }
-                if (accept('.')) {
-                    return true;
-                }
-                if (!accept(',')) {
-                    break;
+            boolean more = true;
+            for (int i = 0; i < Tape.MOST && more && readPart(); i++) {
+                more = accept(',');
+                if (!more && !accept('.')) {
+                    refuse(at);
                 }
             }
-            return refuse(at);
         }
 
         private boolean readPart() {

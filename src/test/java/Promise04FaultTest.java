@@ -13,6 +13,7 @@ public final class Promise04FaultTest {
         otherFaults(expect, hall);
         order(expect, hall);
         sound(expect, hall);
+        fullTape(expect, hall);
         expect.takes(hall, "");
         expect.finish();
     }
@@ -128,6 +129,20 @@ public final class Promise04FaultTest {
         expect.refuses(hall, "a:-!a.c(X).c(1):-b,b,b,b,b,b.", 3, 11);
         expect.refuses(hall, "a:-!a.c(X).", 4, 6);
         expect.refuses(hall, "c(1).a:-!a.", 5, 9);
+    }
+
+    private static void fullTape(Expect expect, RuleHall hall) {
+        expect.refuses(hall, "a.".repeat(240), 3, 32);
+        expect.refuses(hall, "a.".repeat(239) + "a:", 1, 480);
+        expect.refuses(hall, "a.".repeat(239) + " a", 1, 480);
+        expect.refuses(hall, "a:-" + "b,".repeat(237) + "b ." , 3, 0);
+        expect.refuses(hall, "a:-" + "b,".repeat(238) + "b", 1, 480);
+        expect.refuses(hall, "a:-" + "1=1,".repeat(119) + "b", 1, 480);
+        expect.refuses(hall, "a(" + "1".repeat(478), 1, 2);
+        expect.refuses(hall, "a(0" + " ".repeat(477), 1, 480);
+        expect.refuses(hall, " ".repeat(479) + ":", 1, 479);
+        expect.takes(hall, " ".repeat(480));
+        expect.takes(hall, "a" + " ".repeat(478) + ".");
     }
 
     private static void sound(Expect expect, RuleHall hall) {
