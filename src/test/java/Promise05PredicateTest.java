@@ -52,10 +52,10 @@ public final class Promise05PredicateTest {
         for (int p = 0; p < 10; p++) {
             expect.same("stratum of " + p, hall.predicate(p, 2), 9 - p);
         }
-        hall = expect.hall("a:-!b.b:-!c.c:-!d.d:-!e.e:-!f.f:-!g.g:-!h.h:-!i.i:-!j.j.");
+        hall = expect.hall("a:-!b.b:-!c.c:-!d.d:-!e.e:-!f.f:-!g.g:-!h.h:-!i.i:-!j.j:-j.");
         for (int p = 0; p < 10; p++) {
             expect.same("stratum of " + p, hall.predicate(p, 2), 10 - p);
-            expect.same("facts of " + p, hall.predicate(p, 3), p % 2);
+            expect.same("facts of " + p, hall.predicate(p, 3), 1 - p % 2);
         }
         hall = expect.hall("a:-b.b:-c.c:-d.d:-!e.e:-f.a:-e.");
         int[] stratum = {2, 2, 2, 2, 1, 0};

@@ -3,6 +3,7 @@ public final class Promise08CommitTest {
     public static void main(String[] args) {
         Expect expect = new Expect();
         order(expect);
+        letters(expect);
         recursion(expect);
         negation(expect);
         comparisons(expect);
@@ -21,6 +22,17 @@ public final class Promise08CommitTest {
         expect.same("one for another", expect.commit(hall, "-a 1", "a 2"), 4);
         expect.same("nothing", hall.commit(), 0);
         expect.log(hall, 8, 0, 0, 0);
+    }
+
+    private static void letters(Expect expect) {
+        for (char letter = 'A'; letter <= 'Z'; letter++) {
+            RuleHall hall = expect.hall("b(?):-a(?).".replace('?', letter));
+            expect.same("commit with " + letter, expect.commit(hall, "a 1", "a 11", "a 0"), 6);
+            expect.facts(hall, 'b', 0, 1, 11);
+        }
+        RuleHall hall = expect.hall("b(A,Z):-a(A,Z),!a(Z,A).");
+        expect.same("commit", expect.commit(hall, "a 1 2", "a 3 4", "a 4 3"), 4);
+        expect.facts(hall, 'b', 14);
     }
 
     private static void recursion(Expect expect) {
