@@ -26,6 +26,10 @@ final class Expect {
         return hall;
     }
 
+    void takes(String text) {
+        hall(text);
+    }
+
     void takes(RuleHall hall, String text) {
         yes("type " + text, type(hall, text));
         no("compile " + text + " throws", throwsAtCompile(hall));
@@ -33,11 +37,19 @@ final class Expect {
         same("fault(1) of " + text, hall.fault(1), 0);
     }
 
+    void refuses(String text, int fault, int place) {
+        refuses(new RuleHall(), text, fault, place);
+    }
+
     void refuses(RuleHall hall, String text, int fault, int place) {
         yes("type " + text, type(hall, text));
         yes("compile " + text + " throws", throwsAtCompile(hall));
         same("fault(0) of " + text, hall.fault(0), fault);
         same("fault(1) of " + text, hall.fault(1), place);
+    }
+
+    void none(String call, long got) {
+        same(call, got, RuleHall.NONE);
     }
 
     /** Puts facts, each written as a predicate and its constants with blanks between, and commits. */
@@ -123,10 +135,8 @@ final class Expect {
         }
     }
 
-    void finish() {
-        System.out.println(asked + " answers, " + wrong + " not as due");
-        if (wrong != 0) {
-            System.exit(1);
-        }
+    /** A case that asks nothing proves nothing. */
+    boolean isAsDue() {
+        return asked > 0 && wrong == 0;
     }
 }

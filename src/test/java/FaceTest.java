@@ -1,5 +1,4 @@
 import java.lang.reflect.Field;
-import java.lang.reflect.Member;
 import java.lang.reflect.Method;
 import java.lang.reflect.Modifier;
 import java.util.Arrays;
@@ -26,31 +25,51 @@ public final class FaceTest {
         "int sync()",
     };
 
-    public static void main(String[] args) throws Exception {
-        Expect expect = new Expect();
+    public static void main(String[] args) {
+        Cases cases = new Cases("The public face");
+        cases.check("the methods of the document, with what they throw, and no other", FaceTest::methods);
+        cases.check("no private method bears the name of a public one", FaceTest::names);
+        cases.check("the constant NONE, and no other field that is not private", FaceTest::fields);
+        cases.check("a public and final class with the one constructor", FaceTest::shape);
+        cases.finish();
+    }
+
+    private static void methods(Expect expect) {
         TreeSet<String> seen = new TreeSet<>();
-        TreeSet<String> publicNames = new TreeSet<>();
         for (Method m : RuleHall.class.getDeclaredMethods()) {
             if (!Modifier.isPrivate(m.getModifiers())) {
                 expect.yes(m + " is public and of the object", m.getModifiers() == Modifier.PUBLIC);
                 seen.add(describe(m));
-                publicNames.add(m.getName());
             }
         }
         expect.yes("the methods " + seen, seen.equals(new TreeSet<>(Arrays.asList(FACE))));
+    }
+
+    private static void names(Expect expect) {
+        TreeSet<String> publicNames = new TreeSet<>();
+        for (Method m : RuleHall.class.getMethods()) {
+            publicNames.add(m.getName());
+        }
         for (Method m : RuleHall.class.getDeclaredMethods()) {
             expect.no(m + " bears a public name", Modifier.isPrivate(m.getModifiers()) && publicNames.contains(m.getName()));
         }
+    }
+
+    private static void fields(Expect expect) {
         for (Field f : RuleHall.class.getDeclaredFields()) {
-            expect.yes(f + " is private or NONE", f.getName().equals("NONE") || Modifier.isPrivate(f.getModifiers()));
+            boolean isNone = f.getName().equals("NONE");
+            expect.yes(f + " is private or NONE", isNone || Modifier.isPrivate(f.getModifiers()));
+            if (isNone) {
+                expect.same("modifiers of NONE", f.getModifiers(), Modifier.PUBLIC | Modifier.STATIC | Modifier.FINAL);
+            }
         }
-        Member none = RuleHall.class.getField("NONE");
-        expect.same("modifiers of NONE", none.getModifiers(), Modifier.PUBLIC | Modifier.STATIC | Modifier.FINAL);
         expect.same("NONE", RuleHall.NONE, -1);
+    }
+
+    private static void shape(Expect expect) {
         expect.same("modifiers of the class", RuleHall.class.getModifiers(), Modifier.PUBLIC | Modifier.FINAL);
         expect.same("constructors", RuleHall.class.getDeclaredConstructors().length, 1);
         expect.same("public constructors", RuleHall.class.getConstructors().length, 1);
-        expect.finish();
     }
 
     private static String describe(Method m) {

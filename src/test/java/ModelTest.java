@@ -28,7 +28,12 @@ public final class ModelTest {
     }
 
     public static void main(String[] args) {
-        Expect expect = new Expect();
+        Cases cases = new Cases("Promises 1 to 17");
+        cases.check("runs of calls answer as the model does", ModelTest::runs);
+        cases.finish();
+    }
+
+    private static void runs(Expect expect) {
         int taken = 0;
         for (int run = 0; run < RUNS; run++) {
             ModelTest test = new ModelTest(expect, run);
@@ -36,7 +41,6 @@ public final class ModelTest {
             taken += test.taken;
         }
         expect.yes("many programs are taken: " + taken, taken > RUNS);
-        expect.finish();
     }
 
     private void run() {

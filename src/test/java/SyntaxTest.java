@@ -19,17 +19,21 @@ public final class SyntaxTest {
     private static final String PIECES = "abjkzAZ0129(),.:-!=#< ~>";
 
     public static void main(String[] args) {
-        Expect expect = new Expect();
+        Cases cases = new Cases("Promise 4, fault");
+        cases.check("fault 1 of spoilt texts is where the regular expression breaks off", SyntaxTest::spoiltTexts);
+        cases.finish();
+    }
+
+    private static void spoiltTexts(Expect expect) {
         Numbers numbers = new Numbers(5);
-        RuleHall hall = new RuleHall();
         for (int i = 0; i < 20000; i++) {
+            RuleHall hall = new RuleHall();
             String text = spoil(SEEDS[numbers.below(SEEDS.length)], numbers);
             int due = placeOf(text);
             Expect.type(hall, text);
             Expect.throwsAtCompile(hall);
             expect.same("syntax fault in " + text, hall.fault(0) == 1 ? hall.fault(1) : -1, due);
         }
-        expect.finish();
     }
 
     private static String spoil(String text, Numbers numbers) {
