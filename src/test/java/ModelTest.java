@@ -3,7 +3,8 @@ import java.util.List;
 
 /** Runs of calls with programs made by a fixed row of numbers: every answer is the model's. */
 public final class ModelTest {
-    private static final int RUNS = 250;
+    private static final int RUNS = 800;
+    // What an object answers later is free.
     private static final int CALLS = 512;
 
     private static final String[] RICH = {
@@ -43,18 +44,24 @@ public final class ModelTest {
         expect.yes("many programs are taken: " + taken, taken > RUNS);
     }
 
+    /** Ends while there is room for the longest step. */
     private void run() {
         program();
-        while (calls < CALLS) {
+        while (hasRoom(60)) {
             if (numbers.oneIn(250)) {
                 program();
             } else {
                 step();
-                if (numbers.oneIn(40)) {
-                    lookAtAll();
+                if (numbers.oneIn(30)) {
+                    lookAround();
                 }
             }
         }
+        expect.yes("no more than 512 calls: " + calls, calls <= CALLS);
+    }
+
+    private boolean hasRoom(int more) {
+        return calls + more <= CALLS;
     }
 
     private void ask(String call, long got, long due) {
@@ -68,12 +75,13 @@ public final class ModelTest {
         for (int i = 0; i < 40; i++) {
             List<Model.Rule> rules = new ArrayList<>();
             String text = makeText(rules);
-            if (text.length() > 480) {
+            int typing = (text.length() + 7) / 8;
+            if (text.length() > 480 || !hasRoom(typing + 60)) {
                 continue;
             }
             Expect.type(hall, text);
             int[] fault = Model.faultOf(rules);
-            calls += text.length() / 8 + 2;
+            calls += typing + 1;
             expect.same("compile " + text, Expect.throwsAtCompile(hall) ? 1 : 0, fault[0] > 0 ? 1 : 0);
             ask("fault(0) of " + text, hall.fault(0), fault[0]);
             ask("fault(1) of " + text, hall.fault(1), fault[1]);
@@ -83,7 +91,9 @@ public final class ModelTest {
                 break;
             }
         }
-        lookAtAll();
+        if (hasRoom(60)) {
+            lookAround();
+        }
     }
 
     private String makeText(List<Model.Rule> rules) {
@@ -266,24 +276,36 @@ public final class ModelTest {
         ask("derivations", hall.derivations(p, a, b, c), due);
     }
 
-    /** Beyond the count of calls, as these change nothing. */
-    private void lookAtAll() {
+    /** At a part of all that can be seen, as there are no calls for the whole. */
+    private void lookAround() {
         for (int p = 0; p < 10; p++) {
+            int what = numbers.below(3);
+            char name = (char) ('a' + p);
+            int due = what == 0 ? model.sort(p) : (what == 1 ? model.width : model.stratum).getOrDefault(name, 0);
+            ask("predicate(" + p + ", " + what + ")", hall.predicate(p, what), due);
+            ask("count of " + p, hall.predicate(p, 3), model.factsOf(p).size());
+        }
+        for (int i = 0; i < 8; i++) {
+            int p = numbers.below(10);
             List<Integer> facts = model.factsOf(p);
-            expect.same("sort of " + p, hall.predicate(p, 0), model.sort(p));
-            expect.same("width of " + p, hall.predicate(p, 1), model.width.getOrDefault((char) ('a' + p), 0));
-            expect.same("stratum of " + p, hall.predicate(p, 2), model.stratum.getOrDefault((char) ('a' + p), 0));
-            expect.same("count of " + p, hall.predicate(p, 3), facts.size());
-            for (int k = 0; k <= facts.size(); k++) {
-                expect.same("fact " + k + " of " + p, hall.fact(p, k), k < facts.size() ? facts.get(k) % 10000 : -1);
-            }
+            int k = numbers.below(facts.size() + 1);
+            ask("fact " + k + " of " + p, hall.fact(p, k), k < facts.size() ? facts.get(k) % 10000 : -1);
         }
+        lookAtChanges();
+        int[] due = {model.log.size(), model.safe, model.staged.size(), model.saved.size()};
+        for (int what = 0; what < 4; what++) {
+            ask("log(" + what + ")", hall.log(what), due[what]);
+        }
+    }
+
+    private void lookAtChanges() {
         List<Integer> changes = model.changes();
-        for (int k = 0; k < changes.size(); k++) {
-            int fact = changes.get(k);
-            expect.change(hall, k, (char) ('a' + fact / 10000), fact % 10000, model.now.contains(fact) ? 1 : 0);
+        for (int i = 0; i < 4; i++) {
+            int k = numbers.below(changes.size() + 1);
+            int fact = k < changes.size() ? changes.get(k) : -1;
+            ask("changed(" + k + ", 0)", hall.changed(k, 0), fact < 0 ? -1 : fact / 10000);
+            ask("changed(" + k + ", 1)", hall.changed(k, 1), fact < 0 ? -1 : fact % 10000);
+            ask("changed(" + k + ", 2)", hall.changed(k, 2), fact < 0 ? -1 : model.now.contains(fact) ? 1 : 0);
         }
-        expect.noChange(hall, changes.size());
-        expect.log(hall, model.log.size(), model.safe, model.staged.size(), model.saved.size());
     }
 }

@@ -24,6 +24,7 @@ public final class Promise03CompileTest {
         cases.check("the empty program empties all too", Promise03CompileTest::emptyTakesAll);
         cases.check("what follows from no fact holds at once", Promise03CompileTest::holdsAtOnce);
         cases.check("predicates are what the new program says alone", Promise03CompileTest::newPredicates);
+        cases.check("a text leaves nothing to a later one, be it taken or not", Promise03CompileTest::textsApart);
         cases.finish();
     }
 
@@ -211,6 +212,25 @@ public final class Promise03CompileTest {
             expect.same("sort of " + p, hall.predicate(p, 0), sort[p]);
             expect.same("width of " + p, hall.predicate(p, 1), width[p]);
             expect.same("stratum of " + p, hall.predicate(p, 2), stratum[p]);
+        }
+    }
+
+    /** Long and wide texts, and short ones behind them. */
+    private static void textsApart(Expect expect) {
+        RuleHall hall = new RuleHall();
+        String[] texts = {"a(1,2,3).b(1,2,3):-!c(1,2,3),X=Y,d(X,Y,Z),!b(1,2,3).", "a(X,Y,Z):-b(X,Y,Z),!c(X,Y,Z).d(X):-e(X).",
+            "a(1,2,3):-b(1,2),!c(1).d:-!a(1,2,3).e:-!d.k", "e(X,Y,Z):-d(X,Y,Z),!c(X).c(1).f:-!e(1,1,1)."};
+        for (int i = 0; i < 8; i++) {
+            expect.yes("type", Expect.type(hall, texts[i % 4]));
+            expect.same("compile throws", Expect.throwsAtCompile(hall) ? 1 : 0, i % 2 == 0 ? 1 : 0);
+            expect.takes(hall, "a:-b.c.");
+            int[] sort = {2, 1, 2, 0, 0, 0};
+            for (int p = 0; p < 6; p++) {
+                expect.same("sort of " + p, hall.predicate(p, 0), sort[p]);
+                expect.same("width of " + p, hall.predicate(p, 1), 0);
+                expect.same("stratum of " + p, hall.predicate(p, 2), sort[p] == 2 ? 1 : 0);
+            }
+            expect.facts(hall, 'c', 0);
         }
     }
 }

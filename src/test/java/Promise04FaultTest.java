@@ -346,6 +346,7 @@ public final class Promise04FaultTest {
         expect.refuses("a:-b(A,B,C),c(D),E=1.", 3, 0);
         expect.refuses("a:-b(V,W,X),c(Y,Z).", 3, 0);
         expect.takes("a:-b(A,B),c(C,D).a:-b(E,F),c(G,H).");
+        expect.takes("a(A):-b(A,B),c(C,D).a(E):-b(E,F),c(G,H).");
     }
 
     private static void firstTooLarge(Expect expect) {
@@ -362,6 +363,10 @@ public final class Promise04FaultTest {
         expect.refuses("a(1,2,Z):-b(X).", 4, 0);
         expect.refuses("a(X):-X=1.", 4, 0);
         expect.refuses("a(X):-!b(X).", 4, 0);
+        expect.refuses("a(X):-b(Y),!c(Y),Y<1.", 4, 0);
+        for (char v = 'A'; v <= 'Z'; v++) {
+            expect.refuses("a(" + v + ").", 4, 0);
+        }
         expect.takes("a(X,Y):-b(Y,X).");
         expect.takes("a(X):-X=1,b(X).");
         expect.takes("a(X):-!c(X),b(X).");
@@ -372,6 +377,7 @@ public final class Promise04FaultTest {
         expect.refuses("a:-!c(1,2,Z).", 4, 0);
         expect.refuses("a:-!c(Y),!d(Y).", 4, 0);
         expect.refuses("a:-!c(Y),Y=1.", 4, 0);
+        expect.refuses("a:-!c(Y),b(X),!c(X),X=1.", 4, 0);
         expect.takes("a:-!c(Y),b(1,Y).");
     }
 
@@ -382,6 +388,7 @@ public final class Promise04FaultTest {
             expect.refuses("a:-Y" + sign + "1.", 4, 0);
             expect.refuses("a:-1" + sign + "Y.", 4, 0);
             expect.refuses("a:-Y" + sign + "Y.", 4, 0);
+            expect.refuses("a:-b(X),Y" + sign + "1,X" + sign + "1.", 4, 0);
             expect.takes("a:-Y" + sign + "X,b(X,Y).");
         }
     }
@@ -440,6 +447,8 @@ public final class Promise04FaultTest {
 
     private static void fullTape(Expect expect) {
         expect.refuses("a.".repeat(240), 3, 32);
+        expect.refuses("a.".repeat(237) + "a(1). ", 2, 474);
+        expect.refuses("a:-" + "b,".repeat(236) + "b(1).", 2, 475);
         expect.refuses("a.".repeat(239) + "a:", 1, 480);
         expect.refuses("a.".repeat(239) + " a", 1, 480);
         expect.refuses("a:-" + "b,".repeat(237) + "b .", 3, 0);

@@ -101,6 +101,11 @@ public final class Promise08CommitTest {
             expect.same("commit with " + letter, expect.commit(hall, "a 1 1", "a 11 11", "a 0 0", "a 1 2"), 7);
             expect.facts(hall, 'b', 0, 1, 11);
         }
+        for (char letter = 'A'; letter <= 'Z'; letter++) {
+            RuleHall hall = expect.hall("b(?):-?<3,!c(?),?#1,a(?).".replace('?', letter));
+            expect.commit(hall, "a 0", "a 1", "a 2", "a 3", "c 0");
+            expect.facts(hall, 'b', 2);
+        }
         RuleHall hall = expect.hall("b(A,Z):-a(A,Z),!a(Z,A).");
         expect.same("commit", expect.commit(hall, "a 1 2", "a 3 4", "a 4 3"), 4);
         expect.facts(hall, 'b', 14);
@@ -115,6 +120,11 @@ public final class Promise08CommitTest {
         expect.same("cut", expect.commit(hall, "-a 11 0"), 1 + 144 - 66 + 12);
         expect.same("cut in the middle", expect.commit(hall, "-a 5 6"), 1 + 36);
         expect.same("mend and cut", expect.commit(hall, "a 5 6", "-a 5 6"), 0);
+        // The rule that goes round may stand ahead of the others.
+        hall = expect.hall("b(X,Y):-b(X,Z),a(Z,Y).b(X,Y):-a(X,Y).");
+        expect.same("a row of five", expect.commit(hall, "a 1 2", "a 2 3", "a 3 4", "a 4 5"), 4 + 10);
+        hall = expect.hall("c(X):-b(X).b(Y):-c(X),a(X,Y).c(0).");
+        expect.same("two that go round", expect.commit(hall, "a 0 1", "a 1 2", "a 2 0", "a 4 5"), 4 + 3 + 2);
     }
 
     private static void noSelfSupport(Expect expect) {
