@@ -122,7 +122,7 @@ final class Expect {
             hall.compile();
             return false;
         } catch (IllegalArgumentException e) {
-            return true;
+            return e.getClass() == IllegalArgumentException.class;
         }
     }
 
@@ -131,7 +131,7 @@ final class Expect {
             hall.commit();
             return false;
         } catch (IllegalStateException e) {
-            return true;
+            return e.getClass() == IllegalStateException.class;
         }
     }
 
