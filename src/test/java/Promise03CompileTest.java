@@ -231,6 +231,7 @@ public final class Promise03CompileTest {
                 expect.same("stratum of " + p, hall.predicate(p, 2), sort[p] == 2 ? 1 : 0);
             }
             expect.facts(hall, 'c', 0);
+            expect.same("commit", expect.commit(hall, "b"), 2);
         }
     }
 }

@@ -21,7 +21,9 @@ public final class Promise08CommitTest {
         cases.check("alike in place of one VARIABLE, of whatever letter", Promise08CommitTest::letters);
         cases.check("what follows by recursion, and nothing else", Promise08CommitTest::recursion);
         cases.check("facts that hold one another up go with what they came from", Promise08CommitTest::noSelfSupport);
+        cases.check("what follows in 15552 steps, one behind another", Promise08CommitTest::longestRow);
         cases.check("ATOMS behind ! do not hold, stratum by stratum", Promise08CommitTest::negation);
+        cases.check("no predicate is looked at ahead of its stratum", Promise08CommitTest::notAhead);
         cases.check("comparisons are so, as numbers", Promise08CommitTest::comparisons);
         cases.check("comparisons of alike and neighbouring constants", Promise08CommitTest::comparisonEdges);
         cases.check("constants in ATOMS and HEADS stand for themselves", Promise08CommitTest::constantsInRules);
@@ -127,6 +129,21 @@ public final class Promise08CommitTest {
         expect.same("two that go round", expect.commit(hall, "a 0 1", "a 1 2", "a 2 0", "a 4 5"), 4 + 3 + 2);
     }
 
+    /** Nine predicates pass a number of three constants round, which is one more each time. */
+    private static void longestRow(Expect expect) {
+        StringBuilder text = new StringBuilder("a(0,0,0).a(X,Y,W):-i(X,Y,Z),j(Z,W).a(X,W,0):-i(X,Y,11),j(Y,W).a(W,0,0):-i(X,11,11),j(X,W).");
+        for (char p = 'b'; p <= 'i'; p++) {
+            text.append(p).append("(X,Y,Z):-").append((char) (p - 1)).append("(X,Y,Z).");
+        }
+        RuleHall hall = expect.hall(text.toString());
+        for (int c = 0; c < 11; c++) {
+            expect.yes("put", hall.put(9, c, c + 1, 0));
+        }
+        expect.same("commit", hall.commit(), 11 + 9 * 1727);
+        expect.same("the last one", hall.fact(8, 1727), 1727);
+        expect.same("cut off at the first number", expect.commit(hall, "-j 10 11"), 1 + 9 * (1728 - 11));
+    }
+
     private static void noSelfSupport(Expect expect) {
         RuleHall hall = expect.hall("a(X):-b(X).a(X):-c(X).b(X):-a(X).");
         expect.same("commit", expect.commit(hall, "c 4"), 3);
@@ -151,6 +168,23 @@ public final class Promise08CommitTest {
         expect.same("commit", expect.commit(hall, "g 1 1"), 3);
         expect.facts(hall, 'e', 0);
         expect.same("commit", expect.commit(hall, "-a 1"), 2);
+    }
+
+    private static void notAhead(Expect expect) {
+        for (char p = 'a'; p <= 'h'; p++) {
+            RuleHall hall = expect.hall("?(X):-i(X),!j(X).j(X):-i(X).".replace('?', p));
+            expect.same("commit with " + p, expect.commit(hall, "i 1", "i 5"), 4);
+            expect.facts(hall, p);
+            expect.facts(hall, 'j', 1, 5);
+            hall = expect.hall("j(X):-i(X).?(X):-i(X),!j(X).".replace('?', p));
+            expect.same("commit with " + p, expect.commit(hall, "i 1", "i 5"), 4);
+            expect.facts(hall, p);
+        }
+        RuleHall hall = expect.hall("a(X):-d(X),!b(X).b(X):-d(X),!c(X).c(X):-d(X),e(X).");
+        expect.same("commit", expect.commit(hall, "d 1", "d 2", "e 2"), 3 + 3);
+        expect.facts(hall, 'a', 2);
+        expect.facts(hall, 'b', 1);
+        expect.facts(hall, 'c', 2);
     }
 
     private static void comparisons(Expect expect) {
